@@ -423,7 +423,7 @@ final class Fips {
         return join(text, encode(press(v, dv(k)), dv(k)));
     }
 
-    static byte[] unlock(int k, byte[] inner, byte[] text) {
+    static int[] wOf(int k, byte[] inner, byte[] text) {
         int step = 32 * du(k);
         int[] sum = new int[256];
         for (int j = 0; j < k; j++) {
@@ -431,7 +431,11 @@ final class Fips {
             sum = plus(sum, pairs(decode(part(inner, 384 * j, 384), 12), forward(u)), 1);
         }
         int[] v = stretch(decode(part(text, step * k, 32 * dv(k)), dv(k)), dv(k));
-        return encode(press(plus(v, back(sum), -1), 1), 1);
+        return plus(v, back(sum), -1);
+    }
+
+    static byte[] unlock(int k, byte[] inner, byte[] text) {
+        return encode(press(wOf(k, inner, text), 1), 1);
     }
 
     /** The SECRET and the TEXT. */

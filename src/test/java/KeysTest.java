@@ -47,9 +47,11 @@ public final class KeysTest {
             test.loadOtherHash(k);
             test.wrapWithout(k);
             test.wrapWithLoadedKey(k);
+            test.wrapAgainAndAgain(k);
             test.unwrapWithout(k);
             test.unwrapAlteredTexts(k);
             test.unwrapWithGreatGroups(k);
+            test.unwrapAtTheEdge(k);
             test.longLeavesAll(k);
         }
         test.loadAnother();
@@ -254,6 +256,28 @@ public final class KeysTest {
         run.lookAtAll();
     }
 
+    /** Many messages, since a NUMBER of v that is off by little seldom shows once it is COMPRESSED. */
+    private void wrapAgainAndAgain(int k) {
+        for (int key = 0; key < 10; key++) {
+            Run run = new Run(due, "promise 12, again, k " + k);
+            run.choose(k);
+            run.bytes(Rows.counting(key, 64));
+            run.make();
+            for (int n = 0; n < 25; n++) {
+                run.bytes(Rows.eightTimes(1000 * key + n));
+                run.wrap();
+                // The rest is looked at with the last one; what shows an error is each TEXT's hash.
+                run.take(2);
+                run.hash(0, 0);
+                for (int i = 0; i < 4; i++) {
+                    run.at(4, i);
+                    run.at(3, i);
+                }
+            }
+            run.lookAtAll();
+        }
+    }
+
     private void unwrapWithout(int k) {
         Run run = withKeys("promise 13, without TEXT", k);
         run.bytes(Rows.mixed(32));
@@ -318,6 +342,60 @@ public final class KeysTest {
             all = Fips.join(all, Fips.encode(groups, 12));
         }
         return all;
+    }
+
+    /**
+     * An inner key that moves one NUMBER of w, and no other, to where its BIT of the message just
+     * stays or just turns: only the message as it was LOCKS to the TEXT again.
+     */
+    private void unwrapAtTheEdge(int k) {
+        byte[] dk = Fips.keys(k, Rows.counting(0, 32), Rows.counting(32, 32))[1];
+        byte[] ek = Fips.part(dk, 384 * k, Fips.ekLength(k));
+        for (int n = 0; n < 6; n++) {
+            byte[] m = Rows.eightTimes(1 + n * 0x10101);
+            byte[] text = Fips.wrap(k, ek, m)[1];
+            int place = 37 * n % 256;
+            boolean bit = (m[place / 8] >> place % 8 & 1) == 1;
+            for (int goal : new int[] {832, 833, 2496, 2497}) {
+                boolean staysOne = goal == 833 || goal == 2496;
+                Run run = new Run(due, "promise 13, at the edge, k " + k);
+                run.choose(k);
+                run.bytes(Fips.join(movedInner(k, dk, text, place, goal), Fips.part(dk, 384 * k, 384 * k + 96)));
+                due.is("promise 11: load(1)", run.load(1), Fips.dkLength(k));
+                run.bytes(text);
+                run.load(2);
+                due.is("promise 13: NUMBER " + place + " of w is " + goal, run.unwrap(), bit == staysOne ? 1 : 0);
+                run.lookAtAll();
+            }
+        }
+    }
+
+    /** The inner key of dk, changed so that of this TEXT's w the one NUMBER becomes the goal. */
+    private static byte[] movedInner(int k, byte[] dk, byte[] text, int place, int goal) {
+        byte[] inner = Fips.part(dk, 0, 384 * k);
+        int du = Fips.du(k);
+        int[] u = Fips.forward(Fips.stretch(Fips.decode(Fips.part(text, 0, 32 * du), du), du));
+        int[] move = new int[256];
+        move[place] = Math.floorMod(Fips.wOf(k, inner, text)[place] - goal, 3329);
+        int[] s = Fips.plus(Fips.decode(Fips.part(inner, 0, 384), 12), Fips.pairs(Fips.forward(move), inverse(u)), 1);
+        return Fips.join(Fips.encode(s, 12), Fips.part(inner, 384, 384 * (k - 1)));
+    }
+
+    /** By pairs: 1 / (a + b X) is (a - b X) / (a a - b b X^2). */
+    private static int[] inverse(int[] pairs) {
+        int[] h = new int[256];
+        for (int i = 0; i < 128; i++) {
+            int a = pairs[2 * i];
+            int b = pairs[2 * i + 1];
+            int norm = Math.floorMod(a * a - b * b % 3329 * Fips.square(i), 3329);
+            if (norm == 0) {
+                throw new IllegalStateException("this TEXT has a pair with no inverse: take another");
+            }
+            int part = Fips.power(norm, 3327);
+            h[2 * i] = a * part % 3329;
+            h[2 * i + 1] = (3329 - b) * part % 3329;
+        }
+        return h;
     }
 
     private void longLeavesAll(int k) {
