@@ -13,7 +13,7 @@ final class Fips {
     private Fips() {
     }
 
-    // ---- FIPS 202, with the state as 1600 single bits' worth of formulas per lane.
+    // ---- FIPS 202
 
     /** A sponge that can be told from as long as wanted. */
     static final class Stream {
