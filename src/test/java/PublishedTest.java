@@ -4,9 +4,9 @@ import java.util.HexFormat;
 
 /**
  * Values from outside, for the class and for the model alike: the hashes of the JDK, and the
- * accumulated ML-KEM-768 vector (100 rounds) that the Go library's crypto/mlkem tests publish. The
- * two for ML-KEM-512 and ML-KEM-1024 (20 rounds) come from a Python program over hashlib, written
- * for this project, that gives the published one for 768.
+ * accumulated ML-KEM-768 vector (100 rounds) of the Go library's crypto/mlkem tests, written down
+ * from memory. The two for ML-KEM-512 and ML-KEM-1024 (20 rounds) come from a Python program over
+ * hashlib that is not kept here and that gives the one for 768, too.
  */
 public final class PublishedTest {
     private static final String ACCUMULATED_512 =
