@@ -313,8 +313,8 @@ public final class KeysTest {
     /** A DK is not looked at for groups below 3329: they count modulo 3329. */
     private void unwrapWithGreatGroups(int k) {
         byte[][] keys = Fips.keys(k, Rows.counting(0, 32), Rows.counting(32, 32));
-        byte[] inner = lifted(Fips.part(keys[1], 0, 384 * k));
-        byte[] ek = Fips.join(lifted(Fips.part(keys[0], 0, 384 * k)), Fips.part(keys[0], 384 * k, 32));
+        byte[] inner = Rows.lifted(Fips.part(keys[1], 0, 384 * k));
+        byte[] ek = Fips.join(Rows.lifted(Fips.part(keys[0], 0, 384 * k)), Fips.part(keys[0], 384 * k, 32));
         byte[] h = Fips.sha3256(ek);
         byte[] m = Rows.counting(64, 32);
         byte[] both = Fips.sha3512(m, h);
@@ -329,19 +329,6 @@ public final class KeysTest {
         due.is("promise 13: unwrap()", run.unwrap(), 1);
         due.is("promise 13: SECRET", run.hex(3), HexFormat.of().formatHex(Fips.part(both, 0, 32)));
         run.lookAtAll();
-    }
-
-    /** Each group that can hold 3329 more holds so much. */
-    private static byte[] lifted(byte[] row) {
-        byte[] all = {};
-        for (int start = 0; start < row.length; start += 384) {
-            int[] groups = Fips.groups(Fips.part(row, start, 384), 12);
-            for (int i = 0; i < 256; i++) {
-                groups[i] += groups[i] + 3329 < 4096 ? 3329 : 0;
-            }
-            all = Fips.join(all, Fips.encode(groups, 12));
-        }
-        return all;
     }
 
     /**

@@ -15,6 +15,9 @@ final class Run {
     private final LatticeVault vault = new LatticeVault();
     private final Model model = new Model();
     private final List<ToIntFunction<LatticeVault>> calls = new ArrayList<>();
+    private String lastCall = "new";
+    private Picture picture;
+    private int pictureBehind;
 
     Run(Due due, String name) {
         this.due = due;
@@ -25,12 +28,17 @@ final class Run {
         return MOST_CALLS - calls.size();
     }
 
+    String lastCall() {
+        return lastCall;
+    }
+
     private int both(String call, ToIntFunction<LatticeVault> ask, int want) {
         calls.add(ask);
         if (calls.size() > MOST_CALLS) {
             throw new IllegalStateException(name + ": more calls than are promised");
         }
         int got = ask.applyAsInt(vault);
+        lastCall = call;
         due.is(name + ", call " + calls.size() + ": " + call, got, want);
         return got;
     }
@@ -77,46 +85,59 @@ final class Run {
         return hex(4);
     }
 
-    /**
-     * Every place that can be looked at is as the model has it. New objects do all the calls again,
-     * so that the many looks stay within what is promised for one object.
-     */
+    /** Every place that can be looked at is as the model has it. */
     void lookAtAll() {
-        List<String> names = new ArrayList<>();
-        List<ToIntFunction<LatticeVault>> looks = new ArrayList<>();
-        List<Integer> wants = new ArrayList<>();
+        Looker looker = new Looker();
         for (int w = 0; w <= 5; w++) {
             int what = w;
-            names.add(show("length", what));
-            looks.add(v -> v.length(what));
-            wants.add(model.length(what));
+            look(looker, show("length", what), v -> v.length(what), model.length(what));
             for (int n = 0; n <= model.length(what); n++) {
                 int i = n;
-                names.add(show("at", what, i));
-                looks.add(v -> v.at(what, i));
-                wants.add(model.at(what, i));
+                look(looker, show("at", what, i), v -> v.at(what, i), model.at(what, i));
             }
         }
         for (int n = 0; n < 4 * 256; n++) {
             int p = n / 256;
             int i = n % 256;
-            names.add(show("number", p, i));
-            looks.add(v -> v.number(p, i));
-            wants.add(model.number(p, i));
+            look(looker, show("number", p, i), v -> v.number(p, i), model.number(p, i));
         }
-        if (callsLeft() < 1) {
-            throw new IllegalStateException(name + ": no call is left to look with");
+    }
+
+    private void look(Looker looker, String call, ToIntFunction<LatticeVault> ask, int want) {
+        due.is(name + ", behind call " + calls.size() + ": " + call, looker.ask(1, ask), want);
+    }
+
+    /** What can be seen now, asked of the class alone. */
+    Picture picture() {
+        if (picture == null || pictureBehind != calls.size()) {
+            picture = new Picture(new Looker()::ask);
+            pictureBehind = calls.size();
         }
-        LatticeVault again = null;
-        for (int n = 0; n < looks.size(); n++) {
-            if (n % callsLeft() == 0) {
+        return picture;
+    }
+
+    /**
+     * Asks the object as it is now. New objects do all the calls again, so that the many looks stay
+     * within what is promised for one object.
+     */
+    private final class Looker {
+        private LatticeVault again;
+        private int left;
+
+        /** Of an ask that changes the object, those behind it may see what it did. */
+        int ask(int cost, ToIntFunction<LatticeVault> ask) {
+            if (cost > left) {
                 again = new LatticeVault();
                 for (ToIntFunction<LatticeVault> call : calls) {
                     call.applyAsInt(again);
                 }
+                left = callsLeft();
             }
-            String where = name + ", behind call " + calls.size() + ": " + names.get(n);
-            due.is(where, looks.get(n).applyAsInt(again), wants.get(n));
+            if (cost > left) {
+                throw new IllegalStateException(name + ": no call is left to look with");
+            }
+            left -= cost;
+            return ask.applyAsInt(again);
         }
     }
 
