@@ -1,3 +1,5 @@
+import java.util.Arrays;
+import java.util.HexFormat;
 import java.util.function.IntSupplier;
 
 /**
@@ -87,7 +89,7 @@ final class Edges {
     /** The call tells this and takes the TAPE, but changes nothing else. */
     void leavesAllButTape(int answer, IntSupplier call) {
         changesOnly(answer, call, Picture.TAPE);
-        is("the TAPE behind " + run.lastCall(), run.picture().row(Picture.TAPE).length, 0);
+        rowIsEmpty(Picture.TAPE);
     }
 
     /** The call tells this and changes none but these parts of the picture. */
@@ -95,5 +97,19 @@ final class Edges {
         Picture before = run.picture();
         is(call.getAsInt(), answer);
         is("what else " + run.lastCall() + " changed", run.picture().changeSince(before, parts), "nothing");
+    }
+
+    void rowIs(int what, byte[] want) {
+        byte[] got = run.picture().bytes(what);
+        is("row " + what + " behind " + run.lastCall(), HexFormat.of().formatHex(got), HexFormat.of().formatHex(want));
+    }
+
+    void rowIsEmpty(int what) {
+        rowIs(what, new byte[0]);
+    }
+
+    void polynomialIs(int p, int[] want) {
+        int[] got = run.picture().polynomial(p);
+        is("POLYNOMIAL " + p + " behind " + run.lastCall(), Arrays.toString(got), Arrays.toString(want));
     }
 }

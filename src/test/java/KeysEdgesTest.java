@@ -41,6 +41,7 @@ public final class KeysEdgesTest {
             test.loadLengthBeforeGroup(k);
             test.loadOtherHash(k);
             test.loadKeyWithGreatGroups(k);
+            test.loadAnyText(k);
             test.wrapOf32(k);
             test.wrapWithoutKey(k);
             test.wrapNone(k);
@@ -72,25 +73,24 @@ public final class KeysEdgesTest {
         Run run = edges.full(k);
         edges.tape(Rows.counting(0, 64));
         edges.changesOnly(length(k, EK), run::make, EK, DK, TEXT, SECRET, TAPE);
-        Picture made = run.picture();
-        edges.is("how many BYTES DK has", made.row(DK).length, length(k, DK));
+        byte[] ek = run.picture().bytes(EK);
+        edges.is("how many BYTES DK has", run.picture().bytes(DK).length, length(k, DK));
         for (int what : new int[] {TEXT, SECRET, TAPE}) {
-            edges.is("how many BYTES row " + what + " has", made.row(what).length, 0);
+            edges.rowIsEmpty(what);
         }
         // The last BYTE of d and the first of z: BYTES 31 and 32.
         int z = length(k, DK) - 32;
-        edges.is("the first BYTE of z", made.row(DK)[z], 32);
-        edges.is("the last BYTE of z", made.row(DK)[z + 31], 63);
+        edges.is(run.at(DK, z), 32);
+        edges.is(run.at(DK, z + 31), 63);
         edges.tape(Rows.counting(0, 64));
         run.alter(32, 77);
         run.make();
-        Picture otherZ = run.picture();
-        edges.is("another z makes another EK", Arrays.equals(made.row(EK), otherZ.row(EK)) ? 0 : 1, 0);
-        edges.is("the first BYTE of another z", otherZ.row(DK)[z], 77);
+        edges.rowIs(EK, ek);
+        edges.is(run.at(DK, z), 77);
         edges.tape(Rows.counting(0, 64));
         run.alter(31, 77);
         run.make();
-        edges.is("another d makes another EK", Arrays.equals(made.row(EK), run.picture().row(EK)) ? 0 : 1, 1);
+        edges.is("another d makes another EK", Arrays.equals(ek, run.picture().bytes(EK)) ? 0 : 1, 1);
         for (int value : new int[] {0, 255}) {
             edges.tape(filled(value, 64));
             edges.is(run.make(), length(k, EK));
@@ -122,7 +122,7 @@ public final class KeysEdgesTest {
         edges.leavesAllButTape(-2, run::make);
         run.bound(rounds);
         edges.tape(dAndZ);
-        edges.is(run.make(), length(k, EK));
+        edges.changesOnly(length(k, EK), run::make, EK, DK, TEXT, SECRET, TAPE);
     }
 
     // ---- promise 11
@@ -137,10 +137,8 @@ public final class KeysEdgesTest {
                 run.choose(k);
                 edges.tape(rows[what]);
                 edges.is(run.load(what), length(k, what));
-                edges.is(run.length(TAPE), 0);
-                for (int i = 0; i < rows[what].length; i++) {
-                    edges.is("BYTE " + i, run.picture().row(what)[i], rows[what][i] & 255);
-                }
+                edges.rowIs(what, rows[what]);
+                edges.rowIsEmpty(TAPE);
             }
         }
     }
@@ -306,6 +304,25 @@ public final class KeysEdgesTest {
         }
     }
 
+    private void loadAnyText(int k) {
+        edges.sentence("Terms 6", "Of a TEXT: its length.");
+        for (int value : new int[] {0, 255}) {
+            Run run = edges.full(k);
+            edges.tape(filled(value, length(k, TEXT)));
+            edges.changesOnly(length(k, TEXT), () -> run.load(TEXT), TEXT, TAPE);
+            edges.rowIs(TEXT, filled(value, length(k, TEXT)));
+            edges.tape(filled(value, length(k, TEXT) - 1));
+            edges.leavesAllButTape(-1, () -> run.load(TEXT));
+            edges.tape(filled(value, length(k, TEXT) + 1));
+            edges.leavesAllButTape(-1, () -> run.load(TEXT));
+        }
+        // A TEXT is taken where there is no key.
+        Run alone = edges.fresh();
+        alone.choose(k);
+        edges.tape(Rows.mixed(length(k, TEXT)));
+        edges.changesOnly(length(k, TEXT), () -> alone.load(TEXT), TEXT, TAPE);
+    }
+
     // ---- promise 12
 
     private void wrapOf32(int k) {
@@ -315,7 +332,7 @@ public final class KeysEdgesTest {
             edges.tape(m);
             edges.changesOnly(length(k, TEXT), run::wrap, TEXT, SECRET, TAPE);
             edges.is(run.length(SECRET), 32);
-            edges.is(run.length(TAPE), 0);
+            edges.rowIsEmpty(TAPE);
             run.lookAtAll();
         }
         // With an EK that was loaded there need be no DK.
@@ -325,6 +342,7 @@ public final class KeysEdgesTest {
         alone.load(EK);
         edges.tape(Rows.mixed(32));
         edges.changesOnly(length(k, TEXT), alone::wrap, TEXT, SECRET, TAPE);
+        alone.lookAtAll();
     }
 
     private void wrapWithoutKey(int k) {

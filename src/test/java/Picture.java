@@ -70,8 +70,15 @@ final class Picture {
         return vault.make();
     }
 
-    int[] row(int what) {
-        return rows[what];
+    byte[] bytes(int what) {
+        byte[] bytes = new byte[rows[what].length];
+        for (int i = 0; i < bytes.length; i++) {
+            if (rows[what][i] < 0 || rows[what][i] > 255) {
+                throw new IllegalStateException("BYTE " + i + " of " + NAMES[what] + " is " + rows[what][i]);
+            }
+            bytes[i] = (byte) rows[what][i];
+        }
+        return bytes;
     }
 
     int[] polynomial(int p) {

@@ -174,11 +174,7 @@ public final class RefusedEdgesTest {
         run.at(OUT, 0);
         run.bound(150);
         run.choose(3);
-        int[] tape = run.picture().row(TAPE);
-        edges.is("how many BYTES the TAPE has", tape.length, 33);
-        for (int i = 0; i < 33; i++) {
-            edges.is("BYTE " + i + " of the TAPE", tape[i], (7 * i + 3) & 255);
-        }
+        edges.rowIs(TAPE, Rows.mixed(33));
     }
 
     private void tapeOf(int length) {

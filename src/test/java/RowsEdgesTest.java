@@ -177,10 +177,7 @@ public final class RowsEdgesTest {
                 for (int w = 0; w <= 4; w++) {
                     int what = w;
                     edges.changesOnly(LENGTHS[k - 2][what], () -> run.take(what), 5);
-                    edges.is("as many BYTES", run.picture().row(5).length, LENGTHS[k - 2][what]);
-                    for (int i = 0; i < LENGTHS[k - 2][what]; i++) {
-                        edges.is("BYTE " + i + " of the TAPE", run.picture().row(5)[i], run.picture().row(what)[i]);
-                    }
+                    edges.rowIs(5, run.picture().bytes(what));
                 }
             }
         }
@@ -258,7 +255,7 @@ public final class RowsEdgesTest {
                 Picture before = run.picture();
                 edges.is(run.choose(k), answers[k - 2]);
                 for (int what = 0; what <= 3; what++) {
-                    edges.is("row " + what + " has", run.picture().row(what).length, 0);
+                    edges.rowIsEmpty(what);
                 }
                 String due = from == k ? "nothing" : "SET";
                 edges.is("what else changed", run.picture().changeSince(before, 0, 1, 2, 3), due);

@@ -1,4 +1,5 @@
 import java.util.Arrays;
+import java.util.function.ToIntFunction;
 
 /** The boundary cases that the sentences of the Terms, parts 1 to 6, name, one test a sentence. */
 public final class TermsEdgesTest {
@@ -250,11 +251,10 @@ public final class TermsEdgesTest {
             run.forward(1);
             run.pairs(0, 1, 2);
             run.back(2);
+            int[] want = new int[256];
             int sum = each[0] + each[1];
-            for (int i = 0; i < 256; i++) {
-                int want = i == sum ? 1 : i == sum - 256 ? 3328 : 0;
-                edges.is(run.number(2, i), want);
-            }
+            want[sum % 256] = sum < 256 ? 1 : 3328;
+            edges.polynomialIs(2, want);
         }
     }
 
@@ -290,16 +290,13 @@ public final class TermsEdgesTest {
             for (int i = 0; i < 256; i++) {
                 run.put(3, i, value);
             }
+            int[] before = run.picture().polynomial(3);
             run.forward(3);
-            edges.changesOnly(1, () -> run.back(3), Picture.POLYNOMIAL + 3);
-            for (int each : run.picture().polynomial(3)) {
-                edges.is("a NUMBER there and back", each, value);
-            }
+            run.back(3);
+            edges.polynomialIs(3, before);
             run.back(3);
             run.forward(3);
-            for (int each : run.picture().polynomial(3)) {
-                edges.is("a NUMBER back and there", each, value);
-            }
+            edges.polynomialIs(3, before);
         }
         Run one = edges.fresh();
         one.put(0, 0, 1);
@@ -310,47 +307,50 @@ public final class TermsEdgesTest {
     }
 
     private void compressed() {
-        edges.sentence("Terms 3", "of a NUMBER x the whole number nearest to x times 2^d divided by 3329 (of two the greater one; as it is it is never between two), modulo 2^d.");
-        // By d: the first x that is nearest to 1, and the first that is nearest to 2^d, if there is.
-        int[] ones = {833, 417, 209, 105, 53, 27, 14, 7, 4, 2, 1};
-        int[] tops = {2497, 2913, 3121, 3225, 3277, 3303, 3316, 3323, 3326, 3328, 3329};
-        for (int d = 1; d <= 11; d++) {
+        edges.sentence("Terms 3",
+                "of a NUMBER x the whole number nearest to x times 2^d divided by 3329 (of two the greater one; as it is it is never between two), modulo 2^d.");
+        // By d: the first x that is nearest to 1, and the first that is nearest to 2^d itself.
+        int[] ones = {833, 417, 209, 105, 53, 27, 14, 7, 4, 2};
+        int[] tops = {2497, 2913, 3121, 3225, 3277, 3303, 3316, 3323, 3326, 3328};
+        for (int n = 1; n <= 10; n++) {
+            int d = n;
             int one = ones[d - 1];
             int top = tops[d - 1];
-            int last = (1 << d) - 1;
-            Run run = edges.fresh();
-            int[][] cases = {{0, 0}, {one - 1, 0}, {one, 1}, {top - 1, last}, {Math.min(top, 3328), top == 3329 ? last : 0}, {3328, top == 3329 ? last : 0}};
-            for (int i = 0; i < cases.length; i++) {
-                run.put(0, i, cases[i][0]);
-                run.put(0, 255 - i, cases[i][0]);
-            }
-            edges.is(run.press(0, d), 1);
-            for (int i = 0; i < cases.length; i++) {
-                edges.is(run.number(0, i), cases[i][1]);
-                edges.is(run.number(0, 255 - i), cases[i][1]);
-            }
+            int[][] cases = {{0, 0}, {one - 1, 0}, {one, 1}, {top - 1, (1 << d) - 1}, {top, 0}, {3328, 0}};
+            numbersBecome(cases, run -> run.press(0, d));
         }
+        // Of d 11 no x is so near to 2^11.
+        numbersBecome(new int[][] {{0, 0}, {1, 1}, {2, 1}, {3327, 2047}, {3328, 2047}}, run -> run.press(0, 11));
     }
 
     private void stretched() {
-        edges.sentence("Terms 3", "of y, 0 .. 2^d - 1, the whole number nearest to y times 3329 divided by 2^d (of two the greater one).");
+        edges.sentence("Terms 3",
+                "of y, 0 .. 2^d - 1, the whole number nearest to y times 3329 divided by 2^d (of two the greater one).");
         // By d: y 1, the one below the middle, and the last; in the middle it is 1664.5, so 1665.
         int[] ones = {1665, 832, 416, 208, 104, 52, 26, 13, 7, 3, 2};
         int[] belows = {0, 832, 1248, 1456, 1560, 1612, 1638, 1651, 1658, 1661, 1663};
         int[] lasts = {1665, 2497, 2913, 3121, 3225, 3277, 3303, 3316, 3322, 3326, 3327};
-        for (int d = 1; d <= 11; d++) {
-            int half = 1 << d - 1;
-            Run run = edges.fresh();
-            int[][] cases = {{0, 0}, {1, ones[d - 1]}, {half - 1, belows[d - 1]}, {half, 1665}, {2 * half - 1, lasts[d - 1]}, {2 * half, 0}};
-            for (int i = 0; i < cases.length; i++) {
-                run.put(0, i, cases[i][0]);
-                run.put(0, 255 - i, cases[i][0]);
-            }
-            edges.is(run.stretch(0, d), 1);
-            for (int i = 0; i < cases.length; i++) {
-                edges.is(run.number(0, i), cases[i][1]);
-                edges.is(run.number(0, 255 - i), cases[i][1]);
-            }
+        for (int n = 1; n <= 11; n++) {
+            int d = n;
+            int middle = 1 << d - 1;
+            int last = 2 * middle - 1;
+            int[][] cases = {{0, 0}, {1, ones[d - 1]}, {middle - 1, belows[d - 1]}, {middle, 1665}, {last, lasts[d - 1]}, {last + 1, 0}};
+            numbersBecome(cases, run -> run.stretch(0, d));
+        }
+    }
+
+    /** Each case is a NUMBER, which stands at both ends of POLYNOMIAL 0, and what it becomes. */
+    private void numbersBecome(int[][] cases, ToIntFunction<Run> call) {
+        Run run = edges.fresh();
+        for (int i = 0; i < cases.length; i++) {
+            run.put(0, i, cases[i][0]);
+            run.put(0, 255 - i, cases[i][0]);
+        }
+        edges.is(call.applyAsInt(run), 1);
+        String done = run.lastCall();
+        for (int i = 0; i < cases.length; i++) {
+            edges.is(done + " of " + cases[i][0], run.number(0, i), cases[i][1]);
+            edges.is(done + " of " + cases[i][0] + " at the end", run.number(0, 255 - i), cases[i][1]);
         }
     }
 
@@ -404,9 +404,9 @@ public final class TermsEdgesTest {
             Run run = edges.fresh();
             run.bytes(ones);
             edges.is(run.decode(2, d), 256);
-            for (int i = 0; i < 256; i++) {
-                edges.is(run.number(2, i), (1 << d) - 1);
-            }
+            int[] want = new int[256];
+            Arrays.fill(want, (1 << d) - 1);
+            edges.polynomialIs(2, want);
         }
     }
 
@@ -509,9 +509,8 @@ public final class TermsEdgesTest {
         Run first = edges.fresh();
         first.bytes(Rows.counting(0, 64));
         edges.is(first.make(), 1184);
-        int[] made = first.picture().row(DK);
-        Run chosen = edges.withKeys(3);
-        edges.is("the DK of k 3", Arrays.toString(made), Arrays.toString(chosen.picture().row(DK)));
+        edges.withKeys(3);
+        edges.rowIs(DK, first.picture().bytes(DK));
     }
 
     private void eta1() {
@@ -521,12 +520,7 @@ public final class TermsEdgesTest {
             for (int i = 0; i < k; i++) {
                 // POLYNOMIAL i of the inner key, brought BACK, is NOISE that goes just as far as eta1.
                 Run run = edges.withKeys(k);
-                int[] row = run.picture().row(DK);
-                byte[] part = new byte[384];
-                for (int n = 0; n < 384; n++) {
-                    part[n] = (byte) row[384 * i + n];
-                }
-                edges.tape(part);
+                edges.tape(Fips.part(run.picture().bytes(DK), 384 * i, 384));
                 run.decode(0, 12);
                 run.back(0);
                 boolean least = false;
@@ -547,18 +541,14 @@ public final class TermsEdgesTest {
         edges.sentence("Terms 6", "DK the inner key, EK, H of EK, z: 768 k + 96 BYTES.");
         for (int k = 2; k <= 4; k++) {
             Run run = edges.withKeys(k);
-            int[] ek = run.picture().row(EK);
-            int[] dk = run.picture().row(DK);
+            byte[] dk = run.picture().bytes(DK);
             edges.is("how many BYTES", dk.length, 768 * k + 96);
-            for (int i = 0; i < ek.length; i++) {
-                edges.is("BYTE " + i + " of EK in DK", dk[384 * k + i], ek[i]);
-            }
+            edges.rowIs(EK, Fips.part(dk, 384 * k, 384 * k + 32));
             run.take(EK);
             run.hash(0, 0);
-            int[] h = run.picture().row(OUT);
+            edges.rowIs(OUT, Fips.part(dk, 768 * k + 32, 32));
             for (int i = 0; i < 32; i++) {
-                edges.is("BYTE " + i + " of H of EK", dk[768 * k + 32 + i], h[i]);
-                edges.is("BYTE " + i + " of z", dk[768 * k + 64 + i], 32 + i);
+                edges.is(run.at(DK, 768 * k + 64 + i), 32 + i);
             }
         }
     }
@@ -575,15 +565,7 @@ public final class TermsEdgesTest {
             run.alter(last, run.at(TAPE, last) ^ 128);
             run.load(TEXT);
             edges.is(run.unwrap(), 0);
-            byte[] text = new byte[last + 1];
-            int[] row = run.picture().row(TEXT);
-            for (int i = 0; i <= last; i++) {
-                text[i] = (byte) row[i];
-            }
-            byte[] due = Fips.shake256(32, Rows.counting(32, 32), text);
-            for (int i = 0; i < 32; i++) {
-                edges.is(run.at(SECRET, i), due[i] & 255);
-            }
+            edges.rowIs(SECRET, Fips.shake256(32, Rows.counting(32, 32), run.picture().bytes(TEXT)));
         }
     }
 }

@@ -1,5 +1,3 @@
-import java.util.Arrays;
-
 /** The boundary cases that the sentences of promises 14 to 26 name, one test a sentence. */
 public final class UnderEdgesTest {
     private static final int LOW = Edges.LOW;
@@ -58,11 +56,8 @@ public final class UnderEdgesTest {
             for (int n : new int[] {0, 1, 31, 65, 1000, 1001, -1, LOW, HIGH}) {
                 Run run = edges.full(3);
                 edges.changesOnly(32 + 32 * what, () -> run.hash(what, n), OUT, TAPE);
-                edges.is(run.length(TAPE), 0);
-                for (int i = 0; i < wants[what].length; i++) {
-                    edges.is(run.at(OUT, i), wants[what][i] & 255);
-                }
-                edges.is(run.at(OUT, wants[what].length), -1);
+                edges.rowIsEmpty(TAPE);
+                edges.rowIs(OUT, wants[what]);
             }
         }
     }
@@ -75,11 +70,8 @@ public final class UnderEdgesTest {
             for (int n : new int[] {0, 1, 999, 1000}) {
                 Run run = edges.full(2);
                 edges.changesOnly(n, () -> run.hash(what, n), OUT, TAPE);
-                edges.is(run.length(TAPE), 0);
-                edges.is(run.length(OUT), n);
-                for (int i = 0; i < n; i++) {
-                    edges.is("BYTE " + i + " of OUT", run.picture().row(OUT)[i], wants[what - 2][i] & 255);
-                }
+                edges.rowIsEmpty(TAPE);
+                edges.rowIs(OUT, Fips.part(wants[what - 2], 0, n));
                 edges.is(run.at(OUT, n), -1);
             }
         }
@@ -170,9 +162,9 @@ public final class UnderEdgesTest {
         for (int p = 0; p <= 3; p++) {
             int polynomial = p;
             Run run = edges.full(3);
-            int[] before = run.picture().polynomial(p);
+            int[] want = Fips.forward(run.picture().polynomial(p));
             edges.changesOnly(1, () -> run.forward(polynomial), POLYNOMIAL + p);
-            edges.is("as FIPS has it", Arrays.toString(run.picture().polynomial(p)), Arrays.toString(Fips.forward(before)));
+            edges.polynomialIs(p, want);
         }
     }
 
@@ -189,9 +181,9 @@ public final class UnderEdgesTest {
         for (int p = 0; p <= 3; p++) {
             int polynomial = p;
             Run run = edges.full(3);
-            int[] before = run.picture().polynomial(p);
+            int[] want = Fips.back(run.picture().polynomial(p));
             edges.changesOnly(1, () -> run.back(polynomial), POLYNOMIAL + p);
-            edges.is("as FIPS has it", Arrays.toString(run.picture().polynomial(p)), Arrays.toString(Fips.back(before)));
+            edges.polynomialIs(p, want);
         }
     }
 
@@ -214,7 +206,7 @@ public final class UnderEdgesTest {
             Run run = edges.full(3);
             int[] want = Fips.pairs(run.picture().polynomial(p), run.picture().polynomial(q));
             edges.changesOnly(1, () -> run.pairs(p, q, r), POLYNOMIAL + r);
-            edges.is("the product", Arrays.toString(run.picture().polynomial(r)), Arrays.toString(want));
+            edges.polynomialIs(r, want);
         }
     }
 
@@ -292,7 +284,7 @@ public final class UnderEdgesTest {
                 Run run = edges.full(3);
                 int[] want = Fips.press(run.picture().polynomial(p), d);
                 edges.changesOnly(1, () -> run.press(polynomial, d), POLYNOMIAL + p);
-                edges.is("as FIPS has it", Arrays.toString(run.picture().polynomial(p)), Arrays.toString(want));
+                edges.polynomialIs(p, want);
             }
         }
     }
@@ -318,7 +310,7 @@ public final class UnderEdgesTest {
                 Run run = edges.full(3);
                 int[] want = Fips.stretch(run.picture().polynomial(p), d);
                 edges.changesOnly(1, () -> run.stretch(polynomial, d), POLYNOMIAL + p);
-                edges.is("as FIPS has it", Arrays.toString(run.picture().polynomial(p)), Arrays.toString(want));
+                edges.polynomialIs(p, want);
             }
         }
     }
@@ -367,10 +359,7 @@ public final class UnderEdgesTest {
                 Run run = edges.full(3);
                 byte[] want = Fips.encode(run.picture().polynomial(p), d);
                 edges.changesOnly(32 * d, () -> run.encode(polynomial, d), OUT);
-                edges.is("how many BYTES OUT has", run.picture().row(OUT).length, want.length);
-                for (int i = 0; i < want.length; i++) {
-                    edges.is("BYTE " + i + " of OUT", run.picture().row(OUT)[i], want[i] & 255);
-                }
+                edges.rowIs(OUT, want);
             }
         }
     }
@@ -396,9 +385,8 @@ public final class UnderEdgesTest {
                 Run run = edges.full(3);
                 edges.tape(Rows.mixed(32 * d));
                 edges.changesOnly(256, () -> run.decode(polynomial, d), POLYNOMIAL + p, TAPE);
-                edges.is(run.length(TAPE), 0);
-                String want = Arrays.toString(Fips.decode(Rows.mixed(32 * d), d));
-                edges.is("as FIPS has it", Arrays.toString(run.picture().polynomial(p)), want);
+                edges.rowIsEmpty(TAPE);
+                edges.polynomialIs(p, Fips.decode(Rows.mixed(32 * d), d));
             }
         }
     }
@@ -449,9 +437,8 @@ public final class UnderEdgesTest {
             edges.tape(Rows.mixed(32));
             byte[] seed = Fips.seedOf(Rows.mixed(32), j & 255, i & 255);
             edges.changesOnly(Fips.rounds(seed), () -> run.sample(p, i, j), POLYNOMIAL + p, TAPE);
-            edges.is(run.length(TAPE), 0);
-            String want = Arrays.toString(Fips.sample(seed));
-            edges.is("the SAMPLE", Arrays.toString(run.picture().polynomial(p)), want);
+            edges.rowIsEmpty(TAPE);
+            edges.polynomialIs(p, Fips.sample(seed));
         }
     }
 
@@ -517,9 +504,8 @@ public final class UnderEdgesTest {
                 run.bound(1);
                 edges.tape(Rows.mixed(32));
                 edges.changesOnly(256, () -> run.noise(p, eta, b), POLYNOMIAL + p, TAPE);
-                edges.is(run.length(TAPE), 0);
-                String want = Arrays.toString(Fips.noise(eta, Rows.mixed(32), b & 255));
-                edges.is("the NOISE", Arrays.toString(run.picture().polynomial(p)), want);
+                edges.rowIsEmpty(TAPE);
+                edges.polynomialIs(p, Fips.noise(eta, Rows.mixed(32), b & 255));
             }
         }
     }
