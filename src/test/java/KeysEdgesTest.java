@@ -499,5 +499,12 @@ public final class KeysEdgesTest {
         edges.leavesAll(-2, run::unwrap);
         run.bound(rounds);
         edges.changesOnly(0, run::unwrap, SECRET);
+        run.take(TEXT);
+        run.alter(0, run.at(TAPE, 0) ^ 1);
+        run.load(TEXT);
+        edges.changesOnly(1, run::unwrap, SECRET);
+        // Where it would tell 1 it is LONG as well.
+        run.bound(rounds - 1);
+        edges.leavesAll(-2, run::unwrap);
     }
 }

@@ -1,3 +1,5 @@
+import java.util.function.IntSupplier;
+
 /** The boundary cases that the sentences of promises 1 to 9 name, one test a sentence. */
 public final class RowsEdgesTest {
     private static final int LOW = Edges.LOW;
@@ -26,6 +28,7 @@ public final class RowsEdgesTest {
         test.chooseEmpties();
         test.chooseNone();
         test.boundFromNowOn();
+        test.setAndBoundStay();
         test.boundNone();
         test.lengthOfEach();
         test.lengthNone();
@@ -120,7 +123,8 @@ public final class RowsEdgesTest {
         edges.is(run.at(5, 3980), 255);
 
         // Behind a DK of k 4 the TAPE is 3168 long, and 12 short of full behind 41 calls.
-        Run behindKey = edges.withKeys(4);
+        Run behindKey = edges.full(4);
+        behindKey.bound(160);
         behindKey.take(1);
         for (int i = 1; i <= 41; i++) {
             edges.is(behindKey.feed(i, i, i, i, i), 3168 + 20 * i);
@@ -290,6 +294,45 @@ public final class RowsEdgesTest {
         run.bound(1);
         edges.is(run.bound(280), 280);
         edges.is("the most known ROUNDS that are not LONG", run.picture().bound(), 181);
+    }
+
+    private void setAndBoundStay() {
+        edges.sentence("Promises 6 and 7", "The SET of k; BOUND from now on: n.");
+        for (int k = 2; k <= 4; k++) {
+            Run run = edges.full(k);
+            run.bound(180);
+            for (IntSupplier call : allButChooseAndBound(run)) {
+                Picture before = run.picture();
+                edges.is(call.getAsInt() < 0 ? 1 : 0, 0);
+                String changed = run.picture().changeSince(before, 0, 1, 2, 3, 4, 5, 6, 7, 8, 9);
+                edges.is("what " + run.lastCall() + " changed of both", changed, "nothing");
+            }
+        }
+    }
+
+    /** Each with the TAPE that it needs to be done. */
+    private IntSupplier[] allButChooseAndBound(Run run) {
+        return new IntSupplier[] {
+            () -> run.feed(1, 2, 3, 4, 5), () -> run.end(2), () -> run.alter(0, 1), () -> run.length(5), () -> run.at(5, 0),
+            run::unwrap, () -> withRow(run, 0).load(0), () -> withRow(run, 1).load(1), () -> withRow(run, 2).load(2),
+            () -> withTape(run, 32).wrap(), () -> withTape(run, 64).make(),
+            () -> withTape(run, 9).hash(0, 0), () -> withTape(run, 9).hash(1, 0),
+            () -> withTape(run, 9).hash(2, 9), () -> withTape(run, 9).hash(3, 9),
+            () -> run.put(0, 0, 1), () -> run.number(0, 0), () -> run.forward(0), () -> run.back(0),
+            () -> run.pairs(0, 1, 2), () -> run.add(0, 1, 1), () -> run.press(0, 4), () -> run.stretch(0, 4),
+            () -> run.encode(0, 4), () -> withTape(run, 128).decode(0, 4),
+            () -> withTape(run, 32).sample(0, 0, 0), () -> withTape(run, 32).noise(0, 2, 0)
+        };
+    }
+
+    private Run withTape(Run run, int length) {
+        edges.tape(Rows.mixed(length));
+        return run;
+    }
+
+    private static Run withRow(Run run, int what) {
+        run.take(what);
+        return run;
     }
 
     private void boundNone() {
