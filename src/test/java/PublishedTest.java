@@ -3,12 +3,9 @@ import java.util.Arrays;
 import java.util.HexFormat;
 
 /**
- * Values from outside, for the class and for the model alike: the hashes of the JDK, and the
- * accumulated ML-KEM-768 vector (100 rounds) of the Go library's crypto/mlkem tests, written down
- * from memory. The two for ML-KEM-512 and ML-KEM-1024 (20 rounds) come from a Python program over
- * hashlib that is not kept here and that gives the one for 768, too. Once, by hand, a copy of the
- * class that left the BYTE k out of G, as the draft of FIPS 203 did, gave the accumulated vectors of
- * that draft (C2SP's CCTV, 10,000 rounds, from memory as well) for all three.
+ * Values from outside, for the class and for the model alike: the hashes of the JDK, and accumulated
+ * vectors, made as the Go library's crypto/mlkem tests make theirs. The one for ML-KEM-768 (100
+ * rounds) is Go's, written down from memory; the program of OpenSSL 3.5.7 gives all three of them.
  */
 public final class PublishedTest {
     private static final String ACCUMULATED_512 =
