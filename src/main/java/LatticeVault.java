@@ -117,6 +117,8 @@ public final class LatticeVault {
         return row == null ? NONE : row.byteAt(i);
     }
 
+    // ---- keys
+
     public int make() {
         boolean fits = tape.size() == 2 * SEED;
         boolean made = fits && locksmith.makeKeys(set, tape, mostRounds);
@@ -184,6 +186,8 @@ public final class LatticeVault {
         locksmith.tellRefusal(set, privateKey, text, secret);
         return 0;
     }
+
+    // ---- what is under them
 
     public int hash(int what, int n) {
         int told = hashLength(what, n);

@@ -33,6 +33,7 @@ public final class FaceTest {
         test.face();
         test.nestedClasses();
         test.source();
+        test.sourceHasTheFace();
         test.due.finish();
     }
 
@@ -111,5 +112,26 @@ public final class FaceTest {
         while (imports.find()) {
             due.is("an import", imports.group(), "import java.util.Arrays;");
         }
+    }
+
+    /** The lines of 'The public face' and what the interface says between them, in the document's order. */
+    private void sourceHasTheFace() throws Exception {
+        String source = Files.readString(Path.of("src/main/java/LatticeVault.java"));
+        String document = Files.readString(Path.of("../shared/DOC.md"));
+        Matcher face = Pattern.compile("(?m)^    (public [^;]*);$").matcher(document);
+        int place = 0;
+        int lines = 0;
+        while (face.find()) {
+            lines++;
+            String line = face.group(1);
+            String said = line.startsWith("public int make(") ? "// ---- keys"
+                    : line.startsWith("public int hash(") ? "// ---- what is under them" : "";
+            int found = source.indexOf(line, place);
+            due.is("the source has '" + line + "' behind what is ahead of it", found >= 0, true);
+            String between = source.substring(place, Math.max(found, place));
+            due.is("ahead of it the source says '" + said + "'", between.trim().endsWith(said), true);
+            place = Math.max(found, place);
+        }
+        due.is("the constant, the constructor and the methods", lines, 27);
     }
 }
